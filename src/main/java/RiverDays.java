@@ -367,7 +367,7 @@ public final class RiverDays {
         }
         seekAsCame(r);
         tellFraction(hunt.found, 1L);
-        return tell(hunt.found == 0 ? 0 : hunt.common);
+        return tell(hunt.common);
     }
 
     public int first(int r, int to) {
@@ -766,7 +766,7 @@ public final class RiverDays {
         }
 
         boolean holdsRun(int r, int i, int n) {
-            return i >= 0 && n >= 0 && (long) i + n <= sizeOf(r);
+            return isOne(r) && i >= 0 && n >= 0 && (long) i + n <= sizes[r];
         }
 
         int valueAt(int r, int i) {
@@ -808,7 +808,7 @@ public final class RiverDays {
         }
 
         void transfer(int r, int i, int to, int j, int n) {
-            if (holdsRun(r, i, n) && holdsRun(to, j, n) && isOne(r) && isOne(to)) {
+            if (holdsRun(r, i, n) && holdsRun(to, j, n)) {
                 System.arraycopy(places[r], i, places[to], j, n);
             }
         }
@@ -923,7 +923,6 @@ public final class RiverDays {
             size = 0;
             gateBits = 0;
             millBits = 0;
-            setCount = 0;
         }
 
         boolean hasReach(int i) {

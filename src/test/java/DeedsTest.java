@@ -10,6 +10,7 @@ public final class DeedsTest {
         undoSwapped();
         keep();
         keptApart();
+        keptWithOwners();
         Check.end("DeedsTest");
     }
 
@@ -208,5 +209,21 @@ public final class DeedsTest {
         Check.due("kept over", x.on(0), 2);
         Check.due("kept over", x.keep(1), 2);
         Check.due("now so", x.on(1), 2);
+    }
+
+    private static void keptWithOwners() {
+        RiverDays x = Make.river("y9999999o0123456w29m13");
+        x.day(1);
+        x.day(0);
+        x.keep(2);
+        long before = x.digest();
+        x.undo(0);
+        x.swap(0, 6);
+        x.day(0);
+        x.day(1);
+        x.swap(0, 6);
+        Check.isTrue("another river", x.digest() != before);
+        Check.due("on", x.on(2), 2);
+        Check.due("as it was kept, what came whose it was then", x.digest(), before);
     }
 }

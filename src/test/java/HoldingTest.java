@@ -102,6 +102,14 @@ public final class HoldingTest {
         z.day(0);
         Check.due("from this day on", z.worth(4), 3);
         Check.due("how often", z.asked(), 2);
+        // Without any one WEEKDAY's RAIN a FAIR grinds more often than with all of it.
+        RiverDays f = Make.river("y9999999o0000000s89f10f40f50");
+        f.row(0, 11);
+        f.sea(0);
+        Check.due("with all", f.asked(), 0);
+        // Without that of 0 the first grinds on DAY 2 and the second on DAY 10, of 1 the first on DAY 3 alone.
+        Check.due("one weekday is without", f.worth(11), 1);
+        Check.due("how often", f.asked(), 1);
     }
 
     private static void duel() {
@@ -109,6 +117,9 @@ public final class HoldingTest {
         RiverDays x = Make.river("y0000000o0000000w94m94");
         Check.due("no days", x.duel(0), 0);
         Check.due("one", x.duel(1), 0);
+        RiverDays m = Make.river("y0000000o0000000m11");
+        Check.due("no days", m.duel(0), 0);
+        Check.due("one", m.duel(1), 1);
         RiverDays y = Make.river("y0000000o0000000w99m90");
         Check.due("one", y.duel(1), 0);
         Check.due("let now, grinds on the second day", y.duel(2), 1);

@@ -36,6 +36,13 @@ public final class OpenedTest {
         ways(x, 2, 0);
         Make.row(x, 0, 8, 3);
         ways(x, 2, 0);
+        Make.row(x, 0, 8, 1000);
+        x.row(0, 1);
+        x.lay(0, 0, 8);
+        ways(x, 2, 0);
+        RiverDays one = Make.river("y0000000o0000000w39");
+        Make.row(one, 0, 6);
+        ways(one, 1, 1);
         RiverDays none = Make.river("y0000000o0000000a14");
         Make.row(none, 0, 4, 0);
         ways(none, 1, 0);
@@ -56,6 +63,9 @@ public final class OpenedTest {
         Make.isRow("by none: as it was", x, 4, 3, 2);
         Check.due("by none", x.first(0, 5), RiverDays.NONE);
         Check.finds("by none: not made", x, x.at(5, 0), 1);
+        Make.row(x, 0, 7);
+        Check.due("one day behind two", x.first(0, 4), 1);
+        Make.isRow("one day", x, 4, 2);
         Make.row(x, 0, 7, 8);
         x.lay(0, 0, 7);
         Check.due("to itself", x.first(0, 0), 2);

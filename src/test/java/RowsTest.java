@@ -124,6 +124,11 @@ public final class RowsTest {
         Make.row(x, 0, Integer.MIN_VALUE, Integer.MIN_VALUE);
         Check.due("mean", x.mean(0), 1);
         Check.due("small", x.asked(), Integer.MIN_VALUE);
+        Make.row(x, 0, -7);
+        Check.due("mean", x.mean(0), 1);
+        Check.due("of one", x.asked(), -7);
+        Make.row(x, 0, Integer.MIN_VALUE, Integer.MIN_VALUE);
+        Check.due("mean", x.mean(0), 1);
         x.row(1, 0);
         Check.finds("among none", x, x.mean(1), 4);
         Check.finds("missing", x, x.mean(2), 1);

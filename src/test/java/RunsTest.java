@@ -81,6 +81,11 @@ public final class RunsTest {
         Check.finds("sea, unlike", x, x.sea(0), 3);
         Check.finds("water, unlike", x, x.water(0, 0), 3);
         Check.finds("share, unlike", x, x.share(0, 0), 3);
+        Make.row(x, 1, 1, 2, 2);
+        Check.finds("sea, the first unlike", x, x.sea(1), 3);
+        Make.row(x, 1, 2, 1);
+        x.row(1, 1);
+        Check.due("sea, what is beyond does not count", x.sea(1), 1);
         x.lay(0, 11, -2);
         Check.finds("sea, no set", x, x.sea(0), 3);
         x.lay(0, 11, 4);
@@ -132,6 +137,11 @@ public final class RunsTest {
         x.mid(3, 3);
         x.odds(3, 1, 3);
         Check.due("nothing changed", x.digest(), before);
+        RiverDays y = Make.river("y9999999o0000000m19");
+        y.row(0, 3);
+        Check.due("a weekday without rain", y.worth(3), 0);
+        Check.due("is so aside only", y.sea(0), 27);
+        Check.due("is so aside only", y.asked(), 3);
     }
 
     private static void grinds() {
@@ -148,7 +158,12 @@ public final class RunsTest {
         Check.due("a day less", x.grinds(1), 8);
         Check.due("now", Make.river("y0000000o0000000m11").grinds(0), 1);
         Check.due("never", Make.river("y0000000o0000000m10").grinds(0), RiverDays.NONE);
-        // A SLUICE of 1 fills by 8 a DAY; a second one behind it gets 1 a DAY: nothing grinds by 2.
+        Check.due("on the last of 40", Make.river("y5335533o0000000s49f14").grinds(1), 40);
+        RiverDays later = Make.river("y4533444o0000000s49f14");
+        Check.due("on the 41st", later.grinds(1), RiverDays.NONE);
+        later.day(0);
+        Check.due("now on the 40th", later.grinds(1), 40);
+        // A SLUICE lets 1 run a DAY, however much it has: nothing grinds by 2.
         Check.due("never", Make.river("y9999999o0000000s10m20").grinds(1), RiverDays.NONE);
         Check.due("asked stays", x.asked(), 0);
     }

@@ -150,7 +150,9 @@ public final class TextsTest {
         x.row(0, 1);
         x.day(0);
         x.day(2);
+        x.keep(0);
         x.keep(1);
+        x.keep(2);
         x.swap(0, 6);
         Make.text(x, 1, "y2222222o0000000a47");
         Check.due("anew", x.river(1), 1);
@@ -164,7 +166,9 @@ public final class TextsTest {
         Check.due("rows stay", x.count(8), 1);
         Check.due("texts stay", x.count(9), 2);
         Check.due("kept go", x.count(10), 0);
-        Check.finds("kept go", x, x.on(1), 1);
+        for (int k = 0; k < 3; k++) {
+            Check.finds("kept go", x, x.on(k), 1);
+        }
         Check.due("gates", x.gates(), 0);
         Check.due("owner", x.weekday(6, 1), 0);
         for (int v = 0; v < 7; v++) {
@@ -175,5 +179,10 @@ public final class TextsTest {
         Check.due("the first again", x.river(0), 3);
         Check.due("owners as in the text", x.weekday(6, 1), 6);
         Check.due("gates", x.gates(), 2);
+        Check.due("the second again", x.river(1), 1);
+        Check.due("the second once more", x.river(1), 1);
+        Check.due("weirs", x.count(6), 0);
+        Check.due("mills", x.count(7), 0);
+        Check.due("no plans with any shut", x.all(4, 0), 0);
     }
 }

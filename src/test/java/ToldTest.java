@@ -7,6 +7,7 @@ public final class ToldTest {
         findings();
         digestOfNothing();
         digestOfAll();
+        digestOfOneReach();
         digestTellsApart();
         Check.end("ToldTest");
     }
@@ -161,6 +162,20 @@ public final class ToldTest {
         }
         h = mix(h, 2, 32, (byte) 200);
         Check.due("digest of all", x.digest(), h);
+    }
+
+    private static void digestOfOneReach() {
+        long h = mix(17, 1, 0, 0, 4, 0, 0, 0, 0, 0, 1, 0);
+        h = mix(h, 1, 0, 0, 0, 0, 0, 0, 0, 0, 0, 0, 0, 0, 2);
+        h = mix(h, 0, 0, 0, 0, 0, 0, 0);
+        h = mix(h, 0, 3, 4, 0, 0);
+        h = mix(h, -1, -1, -1);
+        h = mix(h, -1, -1, -1, -1, -1, -1, 19);
+        for (char c : "y1000000o0000002a34".toCharArray()) {
+            h = mix(h, c);
+        }
+        h = mix(h, -1, -1, -1);
+        Check.due("digest of one reach", Make.river("y1000000o0000002a34").digest(), h);
     }
 
     private static void digestTellsApart() {
