@@ -303,7 +303,7 @@ public final class RiverDays {
         if (refusal != GOOD) {
             return refusal;
         }
-        seek(Hunt.MOST_GROUND, n);
+        hunt.seek(course, flow.water, deeds.size, Hunt.MOST_GROUND, n);
         rows.take(r, hunt.plan, n);
         return hunt.top;
     }
@@ -313,7 +313,7 @@ public final class RiverDays {
         if (refusal != GOOD) {
             return refusal;
         }
-        seek(Hunt.FEWEST_SHUT, n);
+        hunt.seek(course, flow.water, deeds.size, Hunt.FEWEST_SHUT, n);
         if (hunt.found == 0) {
             return NONE;
         }
@@ -327,7 +327,7 @@ public final class RiverDays {
             return refusal;
         }
         hunt.village = village;
-        seek(Hunt.MOST_OWNED, n);
+        hunt.seek(course, flow.water, deeds.size, Hunt.MOST_OWNED, n);
         return hunt.top;
     }
 
@@ -354,8 +354,7 @@ public final class RiverDays {
         if (refusal != GOOD) {
             return refusal;
         }
-        hunt.aside.begin(flow.water, deeds.size);
-        return hunt.contest(course, n);
+        return hunt.contest(course, flow.water, deeds.size, n);
     }
 
     // ---- 5 who opened
@@ -365,7 +364,8 @@ public final class RiverDays {
         if (refusal != GOOD) {
             return refusal;
         }
-        seekAsCame(r);
+        rows.giveTo(r, hunt.due);
+        hunt.seek(course, flow.water, deeds.size, Hunt.AS_CAME, rows.sizeOf(r));
         tellFraction(hunt.found, 1L);
         return tell(hunt.common);
     }
@@ -375,7 +375,8 @@ public final class RiverDays {
         if (refusal != GOOD) {
             return refusal;
         }
-        seekAsCame(r);
+        rows.giveTo(r, hunt.due);
+        hunt.seek(course, flow.water, deeds.size, Hunt.AS_CAME, rows.sizeOf(r));
         if (hunt.found == 0) {
             return NONE;
         }
@@ -418,7 +419,8 @@ public final class RiverDays {
         if (refusal != GOOD) {
             return refusal;
         }
-        breakPlan(r, 0, p);
+        rows.giveTo(r, breaking.plan);
+        breaking.weigh(course, flow.water, deeds.size, rows.sizeOf(r), 0, p);
         tellFraction(breaking.seaWeighed, breaking.whole);
         return 1;
     }
@@ -428,7 +430,8 @@ public final class RiverDays {
         if (refusal != GOOD) {
             return refusal;
         }
-        breakPlan(r, g, p);
+        rows.giveTo(r, breaking.plan);
+        breaking.weigh(course, flow.water, deeds.size, rows.sizeOf(r), g, p);
         tellFraction(breaking.reached, breaking.whole);
         return 1;
     }
@@ -662,22 +665,6 @@ public final class RiverDays {
         return aside.groundInAll;
     }
 
-    private void seek(int goal, int days) {
-        hunt.aside.begin(flow.water, deeds.size);
-        hunt.seek(course, goal, days);
-    }
-
-    private void seekAsCame(int r) {
-        rows.giveTo(r, hunt.due);
-        seek(Hunt.AS_CAME, rows.sizeOf(r));
-    }
-
-    private void breakPlan(int r, int often, int p) {
-        rows.giveTo(r, breaking.plan);
-        breaking.aside.begin(flow.water, deeds.size);
-        breaking.weigh(course, rows.sizeOf(r), often, p);
-    }
-
     private boolean agrees(int kind, int measure, int waterNow, int r) {
         int w = waterNow;
         for (int k = 0; k + 1 < rows.sizeOf(r); k += 2) {
@@ -877,14 +864,14 @@ public final class RiverDays {
 
         static int runFrom(int kind, int measure, int water, boolean shut) {
             if (shut) {
-                return Math.max(0, water - measure);
+                return water > measure ? water - measure : 0;
             }
-            return kind == SLUICE ? Math.min(water, measure) : water;
+            return kind == SLUICE && water > measure ? measure : water;
         }
 
         static int settle(int kind, int water) {
             int left = kind == POND && water > 0 ? water - 1 : water;
-            return Math.min(left, WATER_LIMIT);
+            return left > WATER_LIMIT ? WATER_LIMIT : left;
         }
 
         static boolean grindsBy(int kind, int measure, int ran) {
@@ -1211,7 +1198,6 @@ public final class RiverDays {
     private static final class Hunt {
         static final int MOST_GROUND = 0, FEWEST_SHUT = 1, MOST_OWNED = 2, AS_CAME = 3;
 
-        final Aside aside = new Aside();
         final int[] due = new int[SEARCH_DAYS];
         final int[] plan = new int[SEARCH_DAYS];
         int village = 0;
@@ -1221,8 +1207,10 @@ public final class RiverDays {
         int common = 0;
         private int goal = 0;
         private final int[] tried = new int[SEARCH_DAYS];
+        private final Aside aside = new Aside();
 
-        void seek(Course course, int newGoal, int newDays) {
+        void seek(Course course, int[] waterNow, int dayNow, int newGoal, int newDays) {
+            aside.begin(waterNow, dayNow);
             goal = newGoal;
             days = Math.max(0, Math.min(newDays, SEARCH_DAYS));
             found = 0;
@@ -1281,7 +1269,8 @@ public final class RiverDays {
         }
 
         /** How often any GRINDS, if one who wants much and one who wants little choose by turns. */
-        int contest(Course course, int newDays) {
+        int contest(Course course, int[] waterNow, int dayNow, int newDays) {
+            aside.begin(waterNow, dayNow);
             days = Math.max(0, Math.min(newDays, SEARCH_DAYS));
             return contend(course, 0);
         }
@@ -1306,7 +1295,6 @@ public final class RiverDays {
 
     /** A PLAN's ends by BREAKING, each weighed in twelfths to the power of all that is SHUT. */
     private static final class Breaking {
-        final Aside aside = new Aside();
         final int[] plan = new int[SEARCH_DAYS];
         long seaWeighed = 0L;
         long reached = 0L;
@@ -1314,8 +1302,10 @@ public final class RiverDays {
         private int days = 0;
         private int often = 0;
         private int p = 0;
+        private final Aside aside = new Aside();
 
-        void weigh(Course course, int newDays, int newOften, int newP) {
+        void weigh(Course course, int[] waterNow, int dayNow, int newDays, int newOften, int newP) {
+            aside.begin(waterNow, dayNow);
             days = Math.max(0, Math.min(newDays, SEARCH_DAYS));
             often = newOften;
             p = newP;

@@ -75,6 +75,10 @@ public final class ModelTest {
         blanks(s);
         s.append('o');
         figures(s, 7, random.nextInt(7) + 1);
+        if (random.nextInt(4) == 0) {
+            gatesAndFairs(s);
+            return s.toString();
+        }
         int reaches = 1 + random.nextInt(6);
         int gates = 0;
         String letters = random.nextInt(3) == 0 ? "wpsf" : "awmpsf";
@@ -100,6 +104,16 @@ public final class ModelTest {
         }
         s.setLength(Math.min(s.length(), 60));
         return s.toString();
+    }
+
+    /** REACHES by which it matters what is SHUT: FAIRS that want little of what is held. */
+    private void gatesAndFairs(StringBuilder s) {
+        int pairs = 1 + random.nextInt(2);
+        for (int i = 0; i < pairs; i++) {
+            s.append("wps".charAt(random.nextInt(3))).append((char) ('3' + random.nextInt(5))).append(9 - i);
+            s.append("fffm".charAt(random.nextInt(4))).append((char) ('1' + random.nextInt(3)));
+            s.append((char) ('2' + random.nextInt(3)));
+        }
     }
 
     private void blanks(StringBuilder s) {
@@ -203,8 +217,13 @@ public final class ModelTest {
         switch (name) {
             case "day": case "runs": return someSet();
             case "undo": return random.nextInt(model.count(2) + 1);
-            case "keep": case "on": case "reach": case "water": case "kinds": case "measures": case "grinds":
-                return random.nextInt(k == 0 ? 6 : 5);
+            case "keep": case "on": return random.nextInt(3);
+            case "reach": case "water": case "kinds": case "measures": case "grinds": case "mark":
+                return k == 0 ? random.nextInt(Math.max(1, model.count(0))) : random.nextInt(6);
+            case "best": case "all": return random.nextInt(k == 0 ? 5 : 6);
+            case "most": return random.nextInt(k == 0 ? 7 : 5);
+            case "duel": return random.nextInt(4);
+            case "weekday": return random.nextInt(k == 0 ? 7 : 2);
             case "row": return k == 0 ? random.nextInt(6) : random.nextInt(14);
             case "text": return k == 0 ? random.nextInt(4) : random.nextInt(61);
             case "put": return k == 0 ? random.nextInt(4) : k == 1 ? random.nextInt(40) : random.nextInt(500) - 200;

@@ -138,10 +138,10 @@ public final class RunsTest {
         x.odds(3, 1, 3);
         Check.due("nothing changed", x.digest(), before);
         RiverDays y = Make.river("y9999999o0000000m19");
-        y.row(0, 3);
-        Check.due("a weekday without rain", y.worth(3), 0);
-        Check.due("is so aside only", y.sea(0), 27);
-        Check.due("is so aside only", y.asked(), 3);
+        y.row(0, 9);
+        Check.due("a weekday without rain", y.worth(9), 0);
+        Check.due("is so aside only", y.sea(0), 81);
+        Check.due("is so aside only", y.asked(), 9);
     }
 
     private static void grinds() {

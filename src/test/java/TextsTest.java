@@ -116,6 +116,12 @@ public final class TextsTest {
         Check.finds("missing", x, x.fault(1), 1);
         x.text(1, 0);
         Check.due("empty", x.fault(1), 0);
+        Make.text(x, 2, WEEK + "a15 m25");
+        Check.due("a longer one", x.fault(2), RiverDays.NONE);
+        Make.text(x, 1, WEEK + "a1");
+        Check.due("a shorter one behind it", x.fault(1), 18);
+        Make.text(x, 1, WEEK.substring(1));
+        Check.due("a shorter one behind it", x.fault(1), 0);
     }
 
     private static void river() {
