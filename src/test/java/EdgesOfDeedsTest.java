@@ -436,8 +436,15 @@ public final class EdgesOfDeedsTest {
         x.day(0);
         Call.due(x, "owns(5)", 5);
         Call.due(x, "owns(1)", 0);
-        // What came ahead of a swap stays whose it was.
+        // What came ahead of a swap stays whose it was, also if that DAY was undone and passed anew.
         x.swap(0, 6);
+        Call.due(x, "on(2)", 1);
+        Call.due(x, "owns(0)", 5);
+        Call.due(x, "owns(6)", 0);
+        Call.due(x, "undo(0)", 1);
+        Call.due(x, "day(0)", 5);
+        Call.due(x, "owns(0)", 0);
+        Call.due(x, "owns(6)", 5);
         Call.due(x, "on(2)", 1);
         Call.due(x, "owns(0)", 5);
         Call.due(x, "owns(6)", 0);

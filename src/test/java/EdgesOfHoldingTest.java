@@ -25,6 +25,7 @@ public final class EdgesOfHoldingTest {
         mostRefused();
         worthDays();
         worthFirst();
+        worthWithoutOne();
         worthRefused();
         duelDays();
         duelTurns();
@@ -274,6 +275,32 @@ public final class EdgesOfHoldingTest {
         Call.due(two, "asked()", 1);
         RiverDays full = Stand.FULL.get();
         Check.isTrue("behind 40 DEEDS", full.worth(20) >= 0);
+    }
+
+    /** "whose RAIN (if there was none of it)": that of one WEEKDAY, no more and no less, and only aside */
+    private static void worthWithoutOne() {
+        // 3 are in the SLUICE, which lets 1 run a DAY: without the RAIN the MILL GRINDS by these.
+        RiverDays x = Make.river("y5000000o0000000s13m10");
+        Call.due(x, "worth(5)", 0);
+        Call.due(x, "asked()", 3);
+        // With all the RAIN the FAIRS never GRIND, without that of WEEKDAY 1 once: one of the seven is without.
+        RiverDays f = Make.river("y9999999o0000000s89f10f40f50");
+        f.row(0, 11);
+        f.sea(0);
+        Call.due(f, "asked()", 0);
+        Call.due(f, "worth(11)", 1);
+        Call.due(f, "asked()", 1);
+        // Behind it there is RAIN on each WEEKDAY again.
+        RiverDays again = Make.river("y9999999o0000000m10");
+        again.row(0, 9);
+        Call.due(again, "worth(9)", 0);
+        Call.due(again, "sea(0)", 8 * 9);
+        Call.due(again, "asked()", 8);
+        Call.due(again, "worth(9)", 0);
+        Call.due(again, "grinds(0)", 2);
+        for (int d = 0; d < 9; d++) {
+            Call.due(again, "day(0)", d == 0 ? 0 : 9);
+        }
     }
 
     /** "BAD; STATE." of worth() */

@@ -28,6 +28,7 @@ public final class EdgesOfTextsTest {
         faultRefused();
         faultChangesNothing();
         riverAnew();
+        riverOfFewer();
         riverRefused();
         kindsByLetters();
         Check.end("EdgesOfTextsTest");
@@ -372,6 +373,27 @@ public final class EdgesOfTextsTest {
         Check.due("the rain of DAY 0", Make.of(x, 0, 2), 9);
         Call.due(x, "river(2)", 1);
         Call.due(x, "count(1)", 0);
+    }
+
+    /** Nothing is left of longer RIVERS that were there, or of TEXTS that were looked at. */
+    private static void riverOfFewer() {
+        RiverDays x = new RiverDays();
+        Make.text(x, 0, "y1111111o0123456w19m99f99p19s19m99");
+        Make.text(x, 1, "y0000000o0000000a11w59");
+        for (int k = 0; k < 3; k++) {
+            Call.due(x, "river(0)", 6);
+            Call.due(x, "fault(0)", RiverDays.NONE);
+            Call.due(x, "river(1)", 2);
+            Call.due(x, "count(3)", 10);
+            Call.due(x, "count(6)", 1);
+            Call.due(x, "count(7)", 0);
+            Call.due(x, "gates()", 2);
+            Call.due(x, "reach(2, 0)", RiverDays.BAD);
+            Call.due(x, "day(1)", RiverDays.BAD);
+            Call.due(x, "all(4, 0)", 0);
+            Call.due(x, "day(2)", 4);
+            Call.due(x, "count(3)", 6);
+        }
     }
 
     /** "BAD; NOTHING; STATE: a FAULT. (STATE behind NOTHING.)" */

@@ -31,6 +31,7 @@ public final class EdgesOfToldTest {
         findingsRefused();
         digestNew();
         digestDry();
+        digestOneReach();
         digestRich();
         digestFull();
         digestMost();
@@ -276,9 +277,24 @@ public final class EdgesOfToldTest {
         Refused.bad(RiverDays::new, "findings(0)", "findings(6)");
     }
 
-    /** The digest by the other calls, as the sentence has it; kept RIVERS are gone on from on a twin. */
-    private static long mixed(RiverDays x, RiverDays twin) {
-        long h = 17;
+    /** The digest by the other calls, as the sentence has it; each part from an object that is made anew. */
+    private static void digest(String what, Supplier<RiverDays> stand) {
+        long h = mixedRiver(stand.get(), 17);
+        RiverDays kept = stand.get();
+        for (int k = 0; k <= 2; k++) {
+            int deeds = kept.on(k);
+            h = 31 * h + (deeds == RiverDays.FINDING ? -1 : deeds);
+        }
+        for (int r = 0; r <= 5; r++) {
+            h = mixedRow(stand.get(), r, h);
+        }
+        for (int t = 0; t <= 3; t++) {
+            h = mixedText(stand.get(), t, h);
+        }
+        Check.due("digest, " + what, stand.get().digest(), h);
+    }
+
+    private static long mixedRiver(RiverDays x, long h) {
         for (int what = 0; what <= 10; what++) {
             h = 31 * h + x.count(what);
         }
@@ -295,43 +311,33 @@ public final class EdgesOfToldTest {
                 h = 31 * h + x.asked();
             }
         }
-        for (int k = 0; k <= 2; k++) {
-            int deeds = twin.on(k);
-            h = 31 * h + (deeds == RiverDays.FINDING ? -1 : deeds);
-        }
-        return mixedRows(x, h);
-    }
-
-    private static long mixedRows(RiverDays x, long h) {
-        for (int r = 0; r <= 5; r++) {
-            int n = 0;
-            for (; x.at(r, n) == 1; n++) {
-                continue;
-            }
-            h = 31 * h + (x.finding() == Refused.NOTHING ? -1 : n);
-            for (int i = 0; i < n; i++) {
-                x.at(r, i);
-                h = 31 * h + x.asked();
-            }
-        }
-        for (int t = 0; t <= 3; t++) {
-            long signs = 0;
-            long power = 1;
-            int n = 0;
-            for (int was = x.put(t, n, 0); was != RiverDays.FINDING; was = x.put(t, n, 0)) {
-                signs = 31 * signs + was - 1000;
-                power *= 31;
-                n++;
-            }
-            h = 31 * h + (x.finding() == Refused.NOTHING ? -1 : n);
-            h = power * h + signs;
-        }
         return h;
     }
 
-    private static void digest(String what, Supplier<RiverDays> stand) {
-        long got = stand.get().digest();
-        Check.due("digest, " + what, got, mixed(stand.get(), stand.get()));
+    private static long mixedRow(RiverDays x, int r, long h) {
+        long places = 0;
+        long power = 1;
+        int n = 0;
+        while (x.at(r, n) == 1) {
+            places = 31 * places + x.asked();
+            power *= 31;
+            n++;
+        }
+        h = 31 * h + (x.finding() == Refused.NOTHING ? -1 : n);
+        return power * h + places;
+    }
+
+    private static long mixedText(RiverDays x, int t, long h) {
+        long signs = 0;
+        long power = 1;
+        int n = 0;
+        for (int was = x.put(t, n, 0); was != RiverDays.FINDING; was = x.put(t, n, 0)) {
+            signs = 31 * signs + was - 1000;
+            power *= 31;
+            n++;
+        }
+        h = 31 * h + (x.finding() == Refused.NOTHING ? -1 : n);
+        return power * h + signs;
     }
 
     /** "none without REACHES"; "-1: missing" */
@@ -343,6 +349,15 @@ public final class EdgesOfToldTest {
         digest("without REACHES", Stand.DRY);
     }
 
+    /** The fewest REACHES by which WEEKDAYS are in it. */
+    private static void digestOneReach() {
+        digest("one REACH", () -> Make.river("y1234567o6543210a98"));
+        RiverDays x = Make.river("y1234567o6543210a98");
+        long was = x.digest();
+        x.swap(0, 6);
+        Check.isTrue("owners are in it", x.digest() != was);
+    }
+
     private static void digestRich() {
         digest("rich", Stand.RICH);
     }
@@ -351,7 +366,7 @@ public final class EdgesOfToldTest {
         digest("full", Stand.FULL);
     }
 
-    /** Rows of 40, all six, and three kept RIVERS of 0, 20, 40 DEEDS: as much as a run of 512 calls can fill. */
+    /** ROWS of 40, all six, TEXTS of 60, all but one, and three kept RIVERS of 0, 20, 40 DEEDS. */
     private static void digestMost() {
         digest("most", () -> {
             RiverDays x = Make.river("y9876543o6543210s19p29w39m11f21a10");

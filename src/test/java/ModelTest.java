@@ -6,6 +6,8 @@ import java.util.Random;
 public final class ModelTest {
     private static final int RUNS = 1500;
     private static final int STEPS = 60;
+    /** Behind its 512th call nothing is promised; a step makes fewer than 90. */
+    private static final int CALLS_LIMIT = 512 - 90;
     private static final int[] EDGES = {-1, 0, 1, 2, 3, 4, 5, 6, 7, 10, 11, 12, 13, 20, 21, 39, 40, 41, 60, 61, 99, 100,
         999, 1000, Integer.MAX_VALUE, Integer.MAX_VALUE - 1, Integer.MIN_VALUE, -128, 255};
     /** Calls by names; those that stand more often are called more often. */
@@ -19,6 +21,7 @@ public final class ModelTest {
     private final Model model = new Model();
     private final StringBuilder story = new StringBuilder();
     private int wrong = 0;
+    private int made = 0;
 
     private ModelTest(long seed) {
         random = new Random(seed);
@@ -38,7 +41,7 @@ public final class ModelTest {
 
     private void run() throws Exception {
         write(random.nextInt(4), riverText());
-        for (int step = 0; step < STEPS && wrong == 0; step++) {
+        for (int step = 0; step < STEPS && made < CALLS_LIMIT && wrong == 0; step++) {
             int what = random.nextInt(40);
             if (what == 0) {
                 write(random.nextInt(4), riverText());
@@ -61,6 +64,7 @@ public final class ModelTest {
     }
 
     private void same(String what, long got, long due) {
+        made++;
         if (got != due) {
             wrong++;
             story.append(" ").append(what).append(" answered ").append(got).append(", due is ").append(due);
