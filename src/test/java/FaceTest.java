@@ -4,6 +4,7 @@ import java.lang.reflect.Method;
 import java.lang.reflect.Modifier;
 import java.nio.file.Files;
 import java.nio.file.Path;
+import java.util.List;
 import java.util.Set;
 import java.util.TreeSet;
 import java.util.regex.Matcher;
@@ -24,12 +25,19 @@ public final class FaceTest {
         "int count(int)", "int finding()", "int findings(int)", "long digest()",
     };
 
+    private static final Set<String> NAMES = Twins.names();
+    private static final Set<Class<?>> CONSTANTS = Set.of(int.class, long.class, boolean.class, char.class,
+        String.class, int[].class, long[].class, char[].class, byte[].class);
+
     public static void main(String[] args) throws Exception {
         constants();
+        documentsFace();
         members();
         nestedClasses();
+        fieldsOf(RiverDays.class);
         newObject();
         source();
+        methodsAreShort();
         Check.end("FaceTest");
     }
 
@@ -40,6 +48,28 @@ public final class FaceTest {
         Check.due("STATE", RiverDays.STATE, -4);
         Check.due("SPENT", RiverDays.SPENT, -6);
         Check.due("NONE", RiverDays.NONE, -9);
+    }
+
+    /** The face as the document itself has it, so that no line of it is left out above. */
+    private static void documentsFace() throws Exception {
+        String doc = Files.readString(Path.of("../shared/DOC.md"));
+        Matcher block = Pattern.compile("(?s)```java\\npublic final class RiverDays \\{(.*?)\\n\\}\\n```").matcher(doc);
+        Check.isTrue("the document has a face", block.find());
+        Matcher method = Pattern.compile("public (int|long) (\\w+)\\(([^)]*)\\);").matcher(block.group(1));
+        Set<String> due = new TreeSet<>();
+        while (method.find()) {
+            String types = method.group(3).replaceAll("(int|long) \\w+", "$1").replace(" ", "");
+            due.add(method.group(1) + " " + method.group(2) + "(" + types + ")");
+        }
+        Check.isTrue("the document's face is " + due, due.equals(new TreeSet<>(Set.of(FACE))));
+        Matcher constant = Pattern.compile("([A-Z]+) = (-?\\d+)").matcher(block.group(1));
+        int constants = 0;
+        while (constant.find()) {
+            Field f = RiverDays.class.getField(constant.group(1));
+            Check.due(constant.group(1), f.getInt(null), Integer.parseInt(constant.group(2)));
+            constants++;
+        }
+        Check.due("constants of the document", constants, 6);
     }
 
     private static void members() {
@@ -90,11 +120,23 @@ public final class FaceTest {
             Check.isTrue(c + " is static", Modifier.isStatic(c.getModifiers()));
             Check.isTrue(c + " is hidden", !Modifier.isPublic(c.getModifiers())
                 && !Modifier.isProtected(c.getModifiers()));
-            for (Field f : c.getDeclaredFields()) {
-                boolean isStatic = Modifier.isStatic(f.getModifiers());
-                Check.isTrue(f + " is a constant", !isStatic || Modifier.isFinal(f.getModifiers()));
+            fieldsOf(c);
+            for (Method m : c.getDeclaredMethods()) {
+                Check.isTrue(m + " is named as a call", !NAMES.contains(m.getName()));
+                Check.isTrue(m + " has too many parameters", m.getParameterCount() <= 7);
             }
         }
+    }
+
+    private static void fieldsOf(Class<?> c) {
+        int own = 0;
+        for (Field f : c.getDeclaredFields()) {
+            boolean isStatic = Modifier.isStatic(f.getModifiers());
+            Check.isTrue(f + " is a constant", !isStatic || Modifier.isFinal(f.getModifiers()));
+            Check.isTrue(f + " may be static", !isStatic || CONSTANTS.contains(f.getType()));
+            own += isStatic ? 0 : 1;
+        }
+        Check.isTrue(c + " has some twenty fields", own <= 20);
     }
 
     private static void newObject() {
@@ -137,5 +179,20 @@ public final class FaceTest {
         Check.isTrue("the source has a lambda or a method reference", !code.contains("->") && !code.contains("::"));
         Check.isTrue("the source has a function named ..Exact", !code.contains("Exact("));
         Check.isTrue("signs", text.chars().allMatch(c -> c == '\n' || c >= 32 && c < 127));
+    }
+
+    /** A method of the outer class is indented by four, one of a class inside by eight. */
+    private static void methodsAreShort() throws Exception {
+        List<String> lines = Files.readAllLines(Path.of("src/main/java/RiverDays.java"));
+        int methods = 0;
+        for (int from = 0; from < lines.size(); from++) {
+            Matcher head = Pattern.compile("( {4}| {8})[A-Za-z].*\\) \\{").matcher(lines.get(from));
+            if (head.matches()) {
+                int size = lines.subList(from, lines.size()).indexOf(head.group(1) + "}") + 1;
+                Check.isTrue(lines.get(from) + " has " + size + " lines", size > 0 && size <= 60);
+                methods++;
+            }
+        }
+        Check.isTrue("methods are found", methods > FACE.length);
     }
 }

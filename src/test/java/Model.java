@@ -183,7 +183,7 @@ final class Model {
         return n;
     }
 
-    private int told(int i, int what) {
+    int ofReach(int i, int what) {
         switch (what) {
             case 0: return "awmpsf".indexOf(letters.charAt(i));
             case 1: return measure[i];
@@ -195,7 +195,7 @@ final class Model {
 
     int reach(int i, int what) {
         if (!in(i, 0, size() - 1) || !in(what, 0, 4)) return -1;
-        return told(told(i, what));
+        return told(ofReach(i, what));
     }
 
     int mark(int i, int kind) {
@@ -681,7 +681,7 @@ final class Model {
         for (int what = 0; what <= 10; what++) values.add(count(what));
         for (int d = 0; d < 7 && size() > 0; d++) values.addAll(List.of(weekday(d, 0), weekday(d, 1)));
         for (int v = 0; v < 7; v++) values.add(owns(v));
-        for (int i = 0; i < size(); i++) for (int what = 0; what < 5; what++) values.add(told(i, what));
+        for (int i = 0; i < size(); i++) for (int what = 0; what < 5; what++) values.add(ofReach(i, what));
         for (int k = 0; k < 3; k++) values.add(keptNow[k] == null ? -1 : keptBefore.get(k).size());
         for (int[] r : rows) {
             values.add(r == null ? -1 : r.length);
